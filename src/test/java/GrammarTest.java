@@ -182,6 +182,26 @@ public final class GrammarTest {
         check.due("a whole of one word", 0, () -> x.cost(0));
     }
 
+    /** All 16 rules are without a right part, and told from the highest parent downwards. */
+    private static void manyWithoutRightPart() {
+        ReadingChart x = new ReadingChart();
+        x.word(0);
+        x.reading(0, 0, 2, 1, 2, 3);
+        x.append(0, 0);
+        for (int k = 0; k < 16; k++) {
+            int parent = 9 - k % 7;
+            x.rule(parent, parent - 1, -1, 1);
+            x.equate(k, k / 7, 0, 1, 0);
+        }
+        // 3 of 2 by the rules 6 and 13, and each of these upwards by two rules; the spans of 8 are soon full.
+        int[] due = {2123, 3100, 3020, 4100, 4000, 4020, 5100, 5000};
+        check.due("all that there is room for", due.length, () -> x.edges(0, 0, 1));
+        for (int k = 0; k < due.length; k++) {
+            int at = k;
+            check.due("edge " + k, due[k], () -> x.edge(0, 0, 1, at));
+        }
+    }
+
     public static void main(String[] args) {
         ruleArguments();
         equateArguments();
@@ -189,6 +209,7 @@ public final class GrammarTest {
         adding();
         fullSpan();
         withoutRightPart();
+        manyWithoutRightPart();
         check.end();
     }
 }

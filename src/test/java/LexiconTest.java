@@ -16,6 +16,10 @@ public final class LexiconTest {
             check.due("length(" + s + ")", 0, () -> x.length(sentence));
             check.due("styleFaults(" + s + ")", 0, () -> x.styleFaults(sentence));
         }
+        check.due("of a new object the cost", 1000, () -> x.cost(3));
+        check.due("an empty sentence is read too, but once", 1, () -> x.reads());
+        check.due("of a new object the cost anew", 1000, () -> x.costAnew(3));
+        check.due("once", 1, () -> x.reads());
         check.due("an object of its own: word(0)", 0, () -> new ReadingChart().word(0));
     }
 

@@ -69,6 +69,19 @@ public final class MendTest {
         check.due("mendAll once more", 0, () -> x.mendAll(0));
     }
 
+    private static void lowestOfAll() {
+        ReadingChart x = pair(7);
+        int sings = word(x, 0, 2, 1, 0, 0);
+        x.reading(sings, 0, 3, 3, 3, 3);
+        int boy = word(x, 0, 5, 1, 0, 0);
+        int sing = x.word(0);
+        x.reading(sing, 9, 3, 0, 0, 0);
+        x.reading(sing, 0, 2, 2, 0, 0);
+        put(x, 0, boy, sing);
+        word(x, 0, 2, 1, 0, 0);
+        check.due("the head's second reading, and the word 0", 100, () -> x.mend(0, 0));
+    }
+
     private static void openThird() {
         ReadingChart x = pair(7);
         int boy = word(x, 0, 5, 1, 0, 0);
@@ -291,6 +304,7 @@ public final class MendTest {
     public static void main(String[] args) {
         arguments();
         rightPartFirst();
+        lowestOfAll();
         openThird();
         lowestOnly();
         toldOnly();

@@ -1,3 +1,6 @@
+import java.lang.reflect.InvocationTargetException;
+import java.lang.reflect.Method;
+import java.lang.reflect.Modifier;
 import java.util.ArrayList;
 import java.util.List;
 
@@ -8,6 +11,11 @@ public final class RandomRunsTest {
         "length", "wordAt", "left", "referent", "edges", "edge", "edgeCost", "cost", "costAnew", "faults", "fault",
         "fragments", "fragment", "mend", "best", "mendAll", "reads", "pattern", "off", "styleFaults", "styleFault"
     };
+
+    private static final int[] ARGUMENTS = {1, 6, 5, 1, 3, 4, 4, 5, 2, 3, 2, 1, 2, 2, 2, 3, 4, 4, 1, 1, 1, 2, 1, 2, 2, 1, 1, 0,
+        4, 2, 1, 2};
+    private static final Method[] PROGRAMS = methodsOf(ReadingChart.class);
+    private static final Method[] ORACLES = methodsOf(Oracle.class);
 
     private long seed;
     private int wrong = 0;
@@ -33,85 +41,30 @@ public final class RandomRunsTest {
         return k == 0 ? -1 : k == 1 ? high : k == 2 && below(8) == 0 ? pick(Integer.MAX_VALUE, Integer.MIN_VALUE, -2) : below(Math.max(1, high));
     }
 
-    private static long onProgram(ReadingChart x, int op, int[] a) {
-        switch (op) {
-            case 0: return x.word(a[0]);
-            case 1: return x.reading(a[0], a[1], a[2], a[3], a[4], a[5]);
-            case 2: return x.guess(a[0], a[1], a[2], a[3], a[4]);
-            case 3: return x.readings(a[0]);
-            case 4: return x.sure(a[0], a[1], a[2]);
-            case 5: return x.seen(a[0], a[1], a[2], a[3]);
-            case 6: return x.rule(a[0], a[1], a[2], a[3]);
-            case 7: return x.equate(a[0], a[1], a[2], a[3], a[4]);
-            case 8: return x.append(a[0], a[1]);
-            case 9: return x.change(a[0], a[1], a[2]);
-            case 10: return x.remove(a[0], a[1]);
-            case 11: return x.length(a[0]);
-            case 12: return x.wordAt(a[0], a[1]);
-            case 13: return x.left(a[0], a[1]);
-            case 14: return x.referent(a[0], a[1]);
-            case 15: return x.edges(a[0], a[1], a[2]);
-            case 16: return x.edge(a[0], a[1], a[2], a[3]);
-            case 17: return x.edgeCost(a[0], a[1], a[2], a[3]);
-            case 18: return x.cost(a[0]);
-            case 19: return x.costAnew(a[0]);
-            case 20: return x.faults(a[0]);
-            case 21: return x.fault(a[0], a[1]);
-            case 22: return x.fragments(a[0]);
-            case 23: return x.fragment(a[0], a[1]);
-            case 24: return x.mend(a[0], a[1]);
-            case 25: return x.best(a[0]);
-            case 26: return x.mendAll(a[0]);
-            case 27: return x.reads();
-            case 28: return x.pattern(a[0], a[1], a[2], a[3]);
-            case 29: return x.off(a[0], a[1]) ? 1 : 0;
-            case 30: return x.styleFaults(a[0]);
-            default: return x.styleFault(a[0], a[1]);
+    private static Method[] methodsOf(Class<?> from) {
+        Method[] found = new Method[NAMES.length];
+        for (Method m : from.getDeclaredMethods()) {
+            int op = List.of(NAMES).indexOf(m.getName());
+            boolean isOfTheFace = op >= 0 && m.getParameterCount() == ARGUMENTS[op];
+            if (isOfTheFace && !Modifier.isPrivate(m.getModifiers()) && !Modifier.isStatic(m.getModifiers())) {
+                found[op] = m;
+            }
         }
+        return found;
     }
 
-    private static long onOracle(Oracle x, int op, int[] a) {
-        switch (op) {
-            case 0: return x.word(a[0]);
-            case 1: return x.reading(a[0], a[1], a[2], a[3], a[4], a[5]);
-            case 2: return x.guess(a[0], a[1], a[2], a[3], a[4]);
-            case 3: return x.readings(a[0]);
-            case 4: return x.sure(a[0], a[1], a[2]);
-            case 5: return x.seen(a[0], a[1], a[2], a[3]);
-            case 6: return x.rule(a[0], a[1], a[2], a[3]);
-            case 7: return x.equate(a[0], a[1], a[2], a[3], a[4]);
-            case 8: return x.append(a[0], a[1]);
-            case 9: return x.change(a[0], a[1], a[2]);
-            case 10: return x.remove(a[0], a[1]);
-            case 11: return x.length(a[0]);
-            case 12: return x.wordAt(a[0], a[1]);
-            case 13: return x.left(a[0], a[1]);
-            case 14: return x.referent(a[0], a[1]);
-            case 15: return x.edges(a[0], a[1], a[2]);
-            case 16: return x.edge(a[0], a[1], a[2], a[3]);
-            case 17: return x.edgeCost(a[0], a[1], a[2], a[3]);
-            case 18: return x.cost(a[0]);
-            case 19: return x.costAnew(a[0]);
-            case 20: return x.faults(a[0]);
-            case 21: return x.fault(a[0], a[1]);
-            case 22: return x.fragments(a[0]);
-            case 23: return x.fragment(a[0], a[1]);
-            case 24: return x.mend(a[0], a[1]);
-            case 25: return x.best(a[0]);
-            case 26: return x.mendAll(a[0]);
-            case 27: return x.reads();
-            case 28: return x.pattern(a[0], a[1], a[2], a[3]);
-            case 29: return x.off(a[0], a[1]) ? 1 : 0;
-            case 30: return x.styleFaults(a[0]);
-            default: return x.styleFault(a[0], a[1]);
+    private static String outcome(Method method, Object of, int[] a) {
+        Object[] boxed = new Object[a.length];
+        for (int k = 0; k < a.length; k++) {
+            boxed[k] = a[k];
         }
-    }
-
-    private String outcome(boolean ofProgram, int op, int[] a) {
         try {
-            return Long.toString(ofProgram ? onProgram(program, op, a) : onOracle(oracle, op, a));
-        } catch (RuntimeException e) {
-            return "throws." + e.getClass().getName();
+            Object answer = method.invoke(of, boxed);
+            return answer instanceof Boolean b ? (b ? "1" : "0") : answer.toString();
+        } catch (InvocationTargetException e) {
+            return "throws." + e.getCause().getClass().getName();
+        } catch (IllegalAccessException e) {
+            throw new AssertionError(e);
         }
     }
 
@@ -120,8 +73,8 @@ public final class RandomRunsTest {
         for (int k = 0; k < a.length; k++) {
             line.append(k == 0 ? "" : ", ").append(a[k]);
         }
-        String want = outcome(false, op, a);
-        String got = outcome(true, op, a);
+        String want = outcome(ORACLES[op], oracle, a);
+        String got = outcome(PROGRAMS[op], program, a);
         told.add(line.append(") = ").append(want).toString());
         if (!got.equals(want)) {
             wrong++;
@@ -396,6 +349,21 @@ public final class RandomRunsTest {
         }
     }
 
+    /** Any call with any arguments, small ones and those at the ends of what a number can be. */
+    private void runOfWildArguments(int run) {
+        start();
+        seed = run * 32452843L + 3;
+        while (told.size() < 512) {
+            int op = below(NAMES.length);
+            int[] args = new int[ARGUMENTS[op]];
+            for (int k = 0; k < args.length; k++) {
+                args[k] = below(3) > 0 ? below(3) : pick(-1, -1, 3, 4, 5, 6, 7, 9, 10, 11, 16, 20, 21, 30, 31, 39, 40, 100,
+                        -2, -5, -6, Integer.MAX_VALUE, Integer.MIN_VALUE, Integer.MAX_VALUE - 1);
+            }
+            call(op, args);
+        }
+    }
+
     private void tell(int lemma, int category, int first, int second, int third) {
         if (call(0, 0) >= 0) {
             words++;
@@ -421,6 +389,7 @@ public final class RandomRunsTest {
             test.run(run);
             test.runOfGrammar(run + runs);
             test.runOfWideSpans(run);
+            test.runOfWildArguments(run);
             test.runOfGrammar(run);
         }
         String[] what = {"wholes without cost", "wholes with a cost", "three faults or more", "mends", "faults without mend",
