@@ -149,6 +149,25 @@ public final class LanguageTest {
         }
     }
 
+    /** Each call stands under the heading that the document has ahead of it. */
+    private void headingsAreTheDocuments() throws IOException {
+        String doc = Files.readString(Path.of("../shared/DOC.md"));
+        String source = Files.readString(Path.of("src/main/java/ReadingChart.java"));
+        Matcher said = Pattern.compile("Ahead of the calls (.*) the interface says: (---- .*)\\.").matcher(doc);
+        int headings = 0;
+        while (said.find()) {
+            headings++;
+            for (String call : said.group(1).replace("`", "").split(", ")) {
+                Matcher face = Pattern.compile("(?m)^    public (int|boolean) " + call + "\\(").matcher(source);
+                String ahead = face.find() ? source.substring(0, face.start()) : "";
+                String[] behindMarks = ahead.split("// (?=---- )");
+                String heading = behindMarks[behindMarks.length - 1].split("\n")[0];
+                check.that(call + " stands under " + heading, heading.equals(said.group(2)));
+            }
+        }
+        check.that("the document has " + headings + " headings", headings == 7);
+    }
+
     /** What the compiled methods call, as javap shows it. */
     private void readCalls() throws URISyntaxException {
         File dir = new File(ReadingChart.class.getProtectionDomain().getCodeSource().getLocation().toURI());
@@ -226,6 +245,7 @@ public final class LanguageTest {
         test.faceIsTheDocuments();
         test.membersAreHidden();
         test.sourceKeepsToTheRules();
+        test.headingsAreTheDocuments();
         test.readCalls();
         test.callsStayShallow();
         test.check.end();

@@ -1,22 +1,8 @@
-import java.lang.reflect.InvocationTargetException;
-import java.lang.reflect.Method;
-import java.lang.reflect.Modifier;
 import java.util.ArrayList;
 import java.util.List;
 
 /** Runs of 512 calls, chosen by a fixed sequence of numbers, against the plain telling of the document. */
 public final class RandomRunsTest {
-    private static final String[] NAMES = {
-        "word", "reading", "guess", "readings", "sure", "seen", "rule", "equate", "append", "change", "remove",
-        "length", "wordAt", "left", "referent", "edges", "edge", "edgeCost", "cost", "costAnew", "faults", "fault",
-        "fragments", "fragment", "mend", "best", "mendAll", "reads", "pattern", "off", "styleFaults", "styleFault"
-    };
-
-    private static final int[] ARGUMENTS = {1, 6, 5, 1, 3, 4, 4, 5, 2, 3, 2, 1, 2, 2, 2, 3, 4, 4, 1, 1, 1, 2, 1, 2, 2, 1, 1, 0,
-        4, 2, 1, 2};
-    private static final Method[] PROGRAMS = methodsOf(ReadingChart.class);
-    private static final Method[] ORACLES = methodsOf(Oracle.class);
-
     private long seed;
     private int wrong = 0;
     private ReadingChart program;
@@ -41,40 +27,13 @@ public final class RandomRunsTest {
         return k == 0 ? -1 : k == 1 ? high : k == 2 && below(8) == 0 ? pick(Integer.MAX_VALUE, Integer.MIN_VALUE, -2) : below(Math.max(1, high));
     }
 
-    private static Method[] methodsOf(Class<?> from) {
-        Method[] found = new Method[NAMES.length];
-        for (Method m : from.getDeclaredMethods()) {
-            int op = List.of(NAMES).indexOf(m.getName());
-            boolean isOfTheFace = op >= 0 && m.getParameterCount() == ARGUMENTS[op];
-            if (isOfTheFace && !Modifier.isPrivate(m.getModifiers()) && !Modifier.isStatic(m.getModifiers())) {
-                found[op] = m;
-            }
-        }
-        return found;
-    }
-
-    private static String outcome(Method method, Object of, int[] a) {
-        Object[] boxed = new Object[a.length];
-        for (int k = 0; k < a.length; k++) {
-            boxed[k] = a[k];
-        }
-        try {
-            Object answer = method.invoke(of, boxed);
-            return answer instanceof Boolean b ? (b ? "1" : "0") : answer.toString();
-        } catch (InvocationTargetException e) {
-            return "throws." + e.getCause().getClass().getName();
-        } catch (IllegalAccessException e) {
-            throw new AssertionError(e);
-        }
-    }
-
     private long call(int op, int... a) {
-        StringBuilder line = new StringBuilder(NAMES[op]).append('(');
+        StringBuilder line = new StringBuilder(Calls.NAMES.get(op)).append('(');
         for (int k = 0; k < a.length; k++) {
             line.append(k == 0 ? "" : ", ").append(a[k]);
         }
-        String want = outcome(ORACLES[op], oracle, a);
-        String got = outcome(PROGRAMS[op], program, a);
+        String want = Calls.answer(oracle, op, a);
+        String got = Calls.answer(program, op, a);
         told.add(line.append(") = ").append(want).toString());
         if (!got.equals(want)) {
             wrong++;
@@ -354,8 +313,8 @@ public final class RandomRunsTest {
         start();
         seed = run * 32452843L + 3;
         while (told.size() < 512) {
-            int op = below(NAMES.length);
-            int[] args = new int[ARGUMENTS[op]];
+            int op = below(Calls.NAMES.size());
+            int[] args = new int[Calls.arguments(op)];
             for (int k = 0; k < args.length; k++) {
                 args[k] = below(3) > 0 ? below(3) : pick(-1, -1, 3, 4, 5, 6, 7, 9, 10, 11, 16, 20, 21, 30, 31, 39, 40, 100,
                         -2, -5, -6, Integer.MAX_VALUE, Integer.MIN_VALUE, Integer.MAX_VALUE - 1);
